@@ -19,6 +19,7 @@ public final class PromiseTests {
         whatIsTold();
         daysFaults();
         minutes();
+        theLast();
         leading();
         wakingAndFilling();
         paintingAndComing();
@@ -214,6 +215,18 @@ public final class PromiseTests {
         yes(x, x.tray(1, 0, 0));
         no(x, x.read(1, 0), 3);
 
+        yes(x, x.tray(2, 3, 2));
+        yes(x, x.write(2, 0, 7));
+        yes(x, x.write(2, 1, 8));
+        yes(x, x.tray(1, 3, 60));
+        yes(x, x.tray(3, 3, 60));
+        fine(x, x.read(2, 0), 7);
+        yes(x, x.tray(2, 3, 2));
+        fine(x, x.read(2, 0), 0);
+        fine(x, x.read(2, 1), 0);
+        x = new BeastCave();
+        yes(x, x.tray(0, 3, 60));
+
         promise = 6;
         no(x, x.write(-1, 0, 1), 1);
         no(x, x.write(4, 0, 1), 1);
@@ -255,6 +268,12 @@ public final class PromiseTests {
         fine(x, x.read(0, 1), 2);
         fine(x, x.read(0, 4), 4);
         yes(x, x.pour(0, 5, 1, 3, 0));
+        tray(x, 2, 2, -7, 8);
+        tray(x, 3, 2, 1, 1, 1);
+        yes(x, x.pour(2, 0, 3, 1, 2));
+        fine(x, x.read(3, 0), 1);
+        fine(x, x.read(3, 1), -7);
+        fine(x, x.read(3, 2), 8);
         x = new BeastCave();
         yes(x, x.tray(0, 0, 3));
         yes(x, x.tray(1, 1, 3));
@@ -658,6 +677,57 @@ public final class PromiseTests {
         fine(x, x.measure(0, 0), 0);
     }
 
+    /** The last of all that there can be. */
+    private static void theLast() {
+        StringBuilder text = new StringBuilder("beast a;beast b;beast c;beast d;beast e;");
+        for (char c = 'f'; c < 'm'; c++) {
+            text.append("wall ").append(c).append(" of e pulls 9;");
+        }
+        for (char c = 'm'; c < 's'; c++) {
+            text.append("visitor ").append(c).append(" self 17 at l;");
+        }
+        for (char c = 's'; c < '{'; c++) {
+            text.append("figure ").append(c).append(" of e style 9 9;");
+        }
+        promise = 10;
+        BeastCave x = of(text + "over z y;", "when at r f;end;lead r f;when turned r;wake r;end;");
+        promise = 20;
+        fine(x, x.minute(2), 6);
+        promise = 17;
+        fine(x, x.who(5), 4);
+        promise = 16;
+        fine(x, x.measure(5, 4), 18);
+        promise = 18;
+        fine(x, x.figure(7, 0), 4);
+        fine(x, x.figure(7, 3), 64);
+        promise = 13;
+        fine(x, x.told(8), 63);
+        promise = 14;
+        fine(x, x.wall(6, 0), 4);
+        promise = 22;
+        fine(x, x.wake(5), 9);
+        fine(x, x.wake(0), 9);
+        fine(x, x.measure(0, 4), 9);
+        promise = 31;
+        fine(x, x.whoIn(5, 1), 4);
+        fine(x, x.whoIn(5, 58), 4);
+        promise = 51;
+        fine(x, x.game(5, 1), -1);
+        promise = 34;
+        fine(x, x.safe(5, 6), 0);
+        fine(x, x.wake(5), 4);
+        fine(x, x.safe(5, 6), 1);
+        promise = 25;
+        fine(x, x.scrub(6), 4);
+        promise = 13;
+        fine(x, x.told(7), 64);
+        promise = 20;
+        fine(x, x.minute(1), 0);
+        promise = 55;
+        fine(x, x.live(0), 3);
+        lived(x, 1, 0, 0, 0, 0);
+    }
+
     private static void leading() {
         promise = 21;
         BeastCave x = of(CAVE);
@@ -864,6 +934,7 @@ public final class PromiseTests {
         no(x, x.whoIn(0, 75), 6);
         no(x, x.whoIn(2, 4), 6);
         fine(x, x.whoIn(2, 5), 1);
+        no(x, x.whoIn(0, 200), 6);
         no(x, x.whoIn(0, 201), 1);
         no(x, x.whoIn(0, -1), 1);
         no(x, x.whoIn(3, 0), 1);
@@ -1188,6 +1259,13 @@ public final class PromiseTests {
         promise = 50;
         no(x, x.ask(0, 1, 2), 6);
 
+        // He is 3 a minute, from minute 20 on 80 less the minutes: two selves are left, 19 and 20.
+        tray(x, 1, 1, 6, 2, 7, 0, 61, 2);
+        fine(x, x.ask(0, 1, 3), 60);
+        // At a bare wall nothing parts them.
+        tray(x, 1, 1, 3, 2);
+        fine(x, x.ask(1, 1, 1), 0);
+
         promise = 48;
         tray(x, 2, 3, 2, 0, 2, 2);
         fine(x, x.fits(0, 2, 1), 5);
@@ -1345,6 +1423,12 @@ public final class PromiseTests {
         lived(x, 0, 34, 0, 2, 0);
         fine(x, x.live(0), 10);
         lived(x, 0, 1 + 2 + 4 + 32, 0, 0, 0);
+        x = of(CAVE, "minute 1;when self p>3;minute 1;end;when self p<3;minute 1;end;when self p=3;fill 1;end;");
+        fine(x, x.live(0), 5);
+        lived(x, 0, 1, 0, 0, 0);
+        x = of(CAVE, "minute 1;when self p>2;fill 1;end;when self p<4;fill 2;end;when self p=4;fill 4;end;");
+        fine(x, x.live(0), 6);
+        fine(x, x.told(4), 22);
         x = of(CAVE, "lead q x;when at q x;minute 1;end;when at q m;minute 9;end;");
         fine(x, x.live(0), 4);
         lived(x, 0, 1, 1, 0, 0);
