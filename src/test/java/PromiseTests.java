@@ -1286,6 +1286,19 @@ public final class PromiseTests {
         fine(x, x.fits(0, 2, 1), 60);
         yes(x, x.tray(3, 0, 40));
         fine(x, x.fits(0, 3, 20), 0);
+        x = of("lamp 99;beast b;wall w of b pulls 9;visitor v self 1 at w;");
+        fine(x, x.fill(99), 198);
+        fine(x, x.fill(2), 200);
+        tray(x, 0, 1, 200, 0, 200, 1);
+        fine(x, x.fits(0, 0, 1), 60);
+        fine(x, x.fits(0, 0, 2), 0);
+        tray(x, 0, 1, 7, 1, 0, 1);
+        fine(x, x.fits(0, 0, 1), 0);
+        tray(x, 0, 1, 6, 1, 0, 1);
+        fine(x, x.fits(0, 0, 2), 7);
+        promise = 49;
+        fine(x, x.fitsAt(0, 0, 2, 0), 54);
+        fine(x, x.fitsAt(0, 0, 2, 1), 60);
     }
 
     // ---- promises 51 to 54
