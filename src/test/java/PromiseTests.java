@@ -1,15 +1,5 @@
 /** Each promise of the document by calls whose answers were worked out by hand: usual ones, edges, wrong ones. */
-public final class PromiseTests {
-    /** Two beasts, three walls in a row, three visitors, three figures: most tests begin with it. */
-    private static final String CAVE = "lamp 20; odds 8; beast b; beast s; wall m; wall x of b pulls 3; wall y of s pulls 2;"
-        + " way m x long 1; way x y long 2; way m y long 4;"
-        + " visitor p self 5 at x; visitor q self 4 at m; visitor r self 9 at y;"
-        + " figure f of b style 1 2; figure g of s style 3 2; figure h of b style 9 9; over g f; over h f;"
-        + " follows b b weight 2; follows b s weight 3; follows s b weight 1;";
-
-    private static int wrong;
-    private static int promise;
-
+public final class PromiseTests extends Due {
     public static void main(String[] args) {
         objects();
         trays();
@@ -39,120 +29,13 @@ public final class PromiseTests {
         livesAtTheirEdges();
         means();
         marks();
-        System.out.println(wrong == 0 ? "all promises are kept" : wrong + " answers are not as due");
-        if (wrong != 0) {
-            System.exit(1);
-        }
-    }
-
-    // ---- how the tests speak
-
-    private static void due(long got, long want) {
-        if (got != want) {
-            wrong++;
-            StackTraceElement[] trace = new Throwable().getStackTrace();
-            int at = 1;
-            while (trace[at].getMethodName().matches("due|yes|no|fine|fraction|faultIs|caveFault|daysFault|of|tray|lived")) {
-                at++;
-            }
-            System.out.println("promise " + promise + ", line " + trace[at].getLineNumber() + ": " + got + ", due is " + want);
-        }
-    }
-
-    /** A call that is answered. */
-    private static void fine(BeastCave x, long got, long want) {
-        due(got, want);
-        due(x.status(), 0);
-    }
-
-    private static void yes(BeastCave x, boolean got) {
-        fine(x, got ? 1 : 0, 1);
-    }
-
-    /** A call that has a status. */
-    private static void no(BeastCave x, long got, int status) {
-        due(got, -1);
-        due(x.status(), status);
-    }
-
-    private static void no(BeastCave x, boolean got, int status) {
-        due(got ? 1 : 0, 0);
-        due(x.status(), status);
-    }
-
-    private static void fraction(BeastCave x, long top, long bottom) {
-        due(x.top(), top);
-        due(x.bottom(), bottom);
-    }
-
-    private static int feed(BeastCave x, String text) {
-        for (int i = 0; i < text.length(); i += 20) {
-            int[] a = new int[5];
-            for (int k = 0; k < 20; k++) {
-                int c = i + k < text.length() ? text.charAt(i + k) & 255 : 0;
-                a[k / 4] |= c << 8 * (3 - k % 4);
-            }
-            x.feed(a[0], a[1], a[2], a[3], a[4]);
-        }
-        return text.length();
-    }
-
-    private static BeastCave of(String text) {
-        BeastCave x = new BeastCave();
-        x.cave(feed(x, text));
-        due(x.status(), 0);
-        return x;
-    }
-
-    private static BeastCave of(String text, String days) {
-        BeastCave x = of(text);
-        x.days(feed(x, days));
-        due(x.status(), 0);
-        return x;
-    }
-
-    private static void faultIs(BeastCave x, int kind, int place) {
-        due(x.status(), 9);
-        due(x.fault(0), kind);
-        due(x.fault(1), place);
-    }
-
-    private static void caveFault(String text, int kind, int place) {
-        BeastCave x = new BeastCave();
-        due(x.cave(feed(x, text)), -1);
-        faultIs(x, kind, place);
-    }
-
-    /** At the place of the last word of the text, or at its end if that is a blank. */
-    private static void caveFault(String text, int kind) {
-        caveFault(text, kind, text.length() - text.substring(text.lastIndexOf(' ') + 1).length());
-    }
-
-    private static void daysFault(String days, int kind, int place) {
-        BeastCave x = of(CAVE);
-        due(x.days(feed(x, days)), -1);
-        faultIs(x, kind, place);
-    }
-
-    private static void daysFault(String days, int kind) {
-        daysFault(days, kind, days.length() - days.substring(days.lastIndexOf(' ') + 1).length());
-    }
-
-    private static String times(int n, String text) {
-        return text.repeat(n);
-    }
-
-    private static void tray(BeastCave x, int tray, int sort, long... cells) {
-        yes(x, x.tray(tray, sort, cells.length));
-        for (int i = 0; i < cells.length; i++) {
-            yes(x, x.write(tray, i, cells[i]));
-        }
+        tell("all promises are kept");
     }
 
     // ---- promises 1 to 4
 
     private static void objects() {
-        promise = 1;
+        promise(1);
         BeastCave x = new BeastCave();
         due(x.status(), 0);
         fraction(x, 0, 1);
@@ -172,7 +55,7 @@ public final class PromiseTests {
         no(x, x.cave(1), 1);
         due(x.feed(0, 0, 0, 0, 0), 20);
 
-        promise = 2;
+        promise(2);
         no(x, x.told(10), 1);
         due(x.status(), 1);
         x.top();
@@ -183,13 +66,13 @@ public final class PromiseTests {
         due(x.status(), 1);
         fine(x, x.told(4), 60);
 
-        promise = 3;
+        promise(3);
         yes(x, x.rule(8));
         yes(x, x.flicker(2, 1));
         due(x.top(), 3);
         no(x, x.flicker(13, 1), 1);
         due(x.top(), 3);
-        promise = 4;
+        promise(4);
         due(x.bottom(), 4);
         yes(x, x.flicker(2, 3));
         fraction(x, 0, 1);
@@ -199,7 +82,7 @@ public final class PromiseTests {
 
     private static void trays() {
         BeastCave x = new BeastCave();
-        promise = 5;
+        promise(5);
         no(x, x.tray(-1, 0, 1), 1);
         no(x, x.tray(4, 0, 1), 1);
         no(x, x.tray(0, -1, 1), 1);
@@ -227,7 +110,7 @@ public final class PromiseTests {
         x = new BeastCave();
         yes(x, x.tray(0, 3, 60));
 
-        promise = 6;
+        promise(6);
         no(x, x.write(-1, 0, 1), 1);
         no(x, x.write(4, 0, 1), 1);
         no(x, x.write(3, -1, 1), 2);
@@ -240,7 +123,7 @@ public final class PromiseTests {
         tray(x, 2, 2, 2147483647L, 2147483648L, 4294967295L);
         tray(x, 3, 3, Long.MAX_VALUE, Long.MIN_VALUE);
 
-        promise = 7;
+        promise(7);
         long[][] cut = {{127, -128, -1, 0, 127}, {32767, -32768, -1, 32767}, {2147483647L, -2147483648L, -1},
             {Long.MAX_VALUE, Long.MIN_VALUE}};
         for (int t = 0; t < 4; t++) {
@@ -253,7 +136,7 @@ public final class PromiseTests {
         no(x, x.read(0, -1), 3);
         no(x, x.read(0, 5), 3);
 
-        promise = 8;
+        promise(8);
         tray(x, 0, 0, 1, 2, 3, 4, 5);
         tray(x, 1, 0, 9, 9, 9);
         yes(x, x.pour(0, 1, 1, 0, 2));
@@ -295,7 +178,7 @@ public final class PromiseTests {
     // ---- promises 9 to 12
 
     private static void tapeAndTexts() {
-        promise = 9;
+        promise(9);
         BeastCave x = new BeastCave();
         for (int i = 1; i <= 45; i++) {
             due(x.feed(0x20202020, 0x20202020, 0x20202020, 0x20202020, 0x20202020), 20 * i);
@@ -306,7 +189,7 @@ public final class PromiseTests {
         fine(x, x.cave(8), 0);
         fine(x, x.told(0), 1);
 
-        promise = 10;
+        promise(10);
         x = of(CAVE);
         fine(x, x.told(2), 3);
         no(x, x.cave(1), 1);
@@ -335,7 +218,7 @@ public final class PromiseTests {
         no(x, x.cave(feed(x, "lamp 3")), 9);
         fine(x, x.live(0), 1);
 
-        promise = 11;
+        promise(11);
         x = of(CAVE);
         fine(x, x.days(feed(x, "minute 3; lead p y; wake r; fill 9; any; when dark; stop; end; loop 2; end;")), 8);
         no(x, x.days(1), 1);
@@ -352,7 +235,7 @@ public final class PromiseTests {
         fine(x, x.live(0), 1);
         no(x, x.days(feed(x, "lead p z;")), 9);
 
-        promise = 12;
+        promise(12);
         x = new BeastCave();
         due(x.fault(0), -1);
         x.cave(feed(x, "lamp lamp;"));
@@ -371,7 +254,7 @@ public final class PromiseTests {
     }
 
     private static void caveFaults() {
-        promise = 10;
+        promise(10);
         // 1: no token begins so
         caveFault("lamp A", 1);
         caveFault("Lamp", 1, 0);
@@ -464,7 +347,7 @@ public final class PromiseTests {
     }
 
     private static void caveNames() {
-        promise = 10;
+        promise(10);
         BeastCave x = of("beast\nabcdefgh;wall w of abcdefgh pulls 9;visitor lampx self 0060 at w;lamp 0;odds 0;");
         fine(x, x.told(2), 1);
         fine(x, x.told(4), 0);
@@ -488,7 +371,7 @@ public final class PromiseTests {
     }
 
     private static void daysFaults() {
-        promise = 11;
+        promise(11);
         // 1, 2: tokens
         daysFault("minute A", 1);
         daysFault("minute 00001", 1);
@@ -550,7 +433,7 @@ public final class PromiseTests {
     // ---- promises 13 to 19
 
     private static void whatIsTold() {
-        promise = 13;
+        promise(13);
         BeastCave x = of(CAVE);
         int[] first = {2, 3, 3, 3, 20, 8, 0, 1, 0, 0};
         for (int what = 0; what < first.length; what++) {
@@ -565,7 +448,7 @@ public final class PromiseTests {
         no(x, x.told(-1), 1);
         no(x, x.told(10), 1);
 
-        promise = 14;
+        promise(14);
         fine(x, x.wall(1, 0), 0);
         fine(x, x.wall(1, 1), 3);
         fine(x, x.wall(2, 0), 1);
@@ -577,7 +460,7 @@ public final class PromiseTests {
         no(x, x.wall(3, 0), 1);
         no(x, x.wall(-1, 0), 1);
 
-        promise = 15;
+        promise(15);
         int[] p = {5, 1, 0, 6};
         int[] q = {4, 1, 1, 0};
         for (int what = 0; what < 4; what++) {
@@ -589,7 +472,7 @@ public final class PromiseTests {
         no(x, x.visitor(3, 0), 1);
         no(x, x.visitor(-1, 0), 1);
 
-        promise = 16;
+        promise(16);
         fine(x, x.measure(0, 0), 6);
         fine(x, x.measure(0, 1), 0);
         fine(x, x.measure(2, 1), 4);
@@ -597,7 +480,7 @@ public final class PromiseTests {
         no(x, x.measure(0, -1), 1);
         no(x, x.measure(3, 0), 1);
 
-        promise = 18;
+        promise(18);
         int[][] figures = {{0, 1, 2, 0}, {1, 3, 2, 1}, {0, 9, 9, 1}};
         for (int f = 0; f < 3; f++) {
             for (int what = 0; what < 4; what++) {
@@ -608,7 +491,7 @@ public final class PromiseTests {
         no(x, x.figure(0, -1), 1);
         no(x, x.figure(3, 0), 1);
 
-        promise = 19;
+        promise(19);
         fine(x, x.weight(0, 0), 2);
         fine(x, x.weight(0, 1), 3);
         fine(x, x.weight(1, 0), 1);
@@ -616,7 +499,7 @@ public final class PromiseTests {
         no(x, x.weight(2, 0), 1);
         no(x, x.weight(0, -1), 1);
 
-        promise = 17;
+        promise(17);
         fine(x, x.who(0), 0);
         no(x, x.who(2), 6);
         no(x, x.who(3), 1);
@@ -632,7 +515,7 @@ public final class PromiseTests {
     // ---- promises 20 to 29
 
     private static void minutes() {
-        promise = 20;
+        promise(20);
         BeastCave x = of(CAVE);
         no(x, x.minute(0), 1);
         no(x, x.minute(-1), 1);
@@ -657,10 +540,10 @@ public final class PromiseTests {
         no(x, x.minute(1), 4);
         no(x, x.minute(241), 1);
         fine(x, x.fill(5), 5);
-        promise = 30;
+        promise(30);
         fine(x, x.measureIn(0, 0, 5), 15);
 
-        promise = 20;
+        promise(20);
         x = of("lamp 99;beast b;beast s;wall w of b pulls 9;visitor v self 60 at w;");
         fine(x, x.minute(6), 0);
         fine(x, x.minute(1), 1);
@@ -689,47 +572,47 @@ public final class PromiseTests {
         for (char c = 's'; c < '{'; c++) {
             text.append("figure ").append(c).append(" of e style 9 9;");
         }
-        promise = 10;
+        promise(10);
         BeastCave x = of(text + "over z y;", "when at r f;end;lead r f;when turned r;wake r;end;");
-        promise = 20;
+        promise(20);
         fine(x, x.minute(2), 6);
-        promise = 17;
+        promise(17);
         fine(x, x.who(5), 4);
-        promise = 16;
+        promise(16);
         fine(x, x.measure(5, 4), 18);
-        promise = 18;
+        promise(18);
         fine(x, x.figure(7, 0), 4);
         fine(x, x.figure(7, 3), 64);
-        promise = 13;
+        promise(13);
         fine(x, x.told(8), 63);
-        promise = 14;
+        promise(14);
         fine(x, x.wall(6, 0), 4);
-        promise = 22;
+        promise(22);
         fine(x, x.wake(5), 9);
         fine(x, x.wake(0), 9);
         fine(x, x.measure(0, 4), 9);
-        promise = 31;
+        promise(31);
         fine(x, x.whoIn(5, 1), 4);
         fine(x, x.whoIn(5, 58), 4);
-        promise = 51;
+        promise(51);
         fine(x, x.game(5, 1), -1);
-        promise = 34;
+        promise(34);
         fine(x, x.safe(5, 6), 0);
         fine(x, x.wake(5), 4);
         fine(x, x.safe(5, 6), 1);
-        promise = 25;
+        promise(25);
         fine(x, x.scrub(6), 4);
-        promise = 13;
+        promise(13);
         fine(x, x.told(7), 64);
-        promise = 20;
+        promise(20);
         fine(x, x.minute(1), 0);
-        promise = 55;
+        promise(55);
         fine(x, x.live(0), 3);
         lived(x, 1, 0, 0, 0, 0);
     }
 
     private static void leading() {
-        promise = 21;
+        promise(21);
         BeastCave x = of(CAVE);
         fine(x, x.minute(1), 0);
         fine(x, x.lead(0, 0), 1);
@@ -765,7 +648,7 @@ public final class PromiseTests {
     }
 
     private static void wakingAndFilling() {
-        promise = 22;
+        promise(22);
         BeastCave x = of(CAVE);
         fine(x, x.minute(3), 1);
         fine(x, x.wake(0), 4);
@@ -786,7 +669,7 @@ public final class PromiseTests {
         fine(x, x.wake(0), 4);
         fine(x, x.measure(0, 0), 3);
 
-        promise = 23;
+        promise(23);
         x = of(CAVE);
         no(x, x.fill(0), 1);
         no(x, x.fill(100), 1);
@@ -808,7 +691,7 @@ public final class PromiseTests {
     }
 
     private static void paintingAndComing() {
-        promise = 24;
+        promise(24);
         BeastCave x = of(CAVE);
         yes(x, x.paint(0, 1, 9));
         fine(x, x.wall(0, 0), 1);
@@ -824,7 +707,7 @@ public final class PromiseTests {
         no(x, x.paint(0, 0, 10), 1);
         fine(x, x.wall(0, 1), 9);
 
-        promise = 25;
+        promise(25);
         x = of(CAVE);
         fine(x, x.scrub(2), 1);
         fine(x, x.told(7), 5);
@@ -836,7 +719,7 @@ public final class PromiseTests {
         fine(x, x.minute(9), 1);
         fine(x, x.measure(2, 1), 0);
 
-        promise = 26;
+        promise(26);
         x = of(CAVE);
         fine(x, x.come(60, 2), 3);
         int[] told = {60, 2, 0, 0};
@@ -858,7 +741,7 @@ public final class PromiseTests {
     }
 
     private static void drawingAndRuling() {
-        promise = 27;
+        promise(27);
         BeastCave x = of(CAVE);
         fine(x, x.draw(1, 0, 9), 3);
         int[] told = {1, 0, 9, 0};
@@ -877,7 +760,7 @@ public final class PromiseTests {
         no(x, x.draw(0, 0, 0), 4);
         no(x, x.draw(2, 0, 0), 1);
 
-        promise = 28;
+        promise(28);
         x = of(CAVE);
         yes(x, x.cover(2, 1));
         fine(x, x.figure(2, 3), 3);
@@ -892,7 +775,7 @@ public final class PromiseTests {
         fine(x, x.draw(0, 0, 0), 3);
         fine(x, x.figure(3, 3), 0);
 
-        promise = 29;
+        promise(29);
         yes(x, x.rule(16));
         fine(x, x.told(5), 16);
         yes(x, x.rule(0));
@@ -905,7 +788,7 @@ public final class PromiseTests {
     // ---- promises 30 to 34
 
     private static void aheadOfOne() {
-        promise = 30;
+        promise(30);
         BeastCave x = of(CAVE);
         fine(x, x.measureIn(0, 0, 0), 0);
         fine(x, x.measureIn(0, 0, 20), 60);
@@ -926,7 +809,7 @@ public final class PromiseTests {
         fine(x, x.measureIn(1, 0, 2), 3);
         fine(x, x.visitor(1, 2), 1);
 
-        promise = 31;
+        promise(31);
         x = of(CAVE);
         no(x, x.whoIn(0, 1), 6);
         fine(x, x.whoIn(0, 2), 0);
@@ -939,7 +822,7 @@ public final class PromiseTests {
         no(x, x.whoIn(0, -1), 1);
         no(x, x.whoIn(3, 0), 1);
 
-        promise = 32;
+        promise(32);
         fine(x, x.turnIn(0), 2);
         fine(x, x.turnIn(2), 5);
         no(x, x.turnIn(1), 6);
@@ -949,7 +832,7 @@ public final class PromiseTests {
         fine(x, x.turnIn(0), 0);
         fine(x, x.turnIn(2), 3);
 
-        promise = 34;
+        promise(34);
         no(x, x.safe(0, 0), 6);
         fine(x, x.safe(0, 1), 0);
         fine(x, x.safe(0, 2), 0);
@@ -969,7 +852,7 @@ public final class PromiseTests {
     }
 
     private static void aheadOfAll() {
-        promise = 33;
+        promise(33);
         BeastCave x = of(CAVE);
         fine(x, x.freeIn(), 0);
         fine(x, x.minute(2), 1);
@@ -989,7 +872,7 @@ public final class PromiseTests {
     // ---- promises 35 to 38
 
     private static void ways() {
-        promise = 35;
+        promise(35);
         BeastCave x = of(CAVE);
         fine(x, x.far(0, 2), 3);
         fine(x, x.far(2, 0), 3);
@@ -1005,7 +888,7 @@ public final class PromiseTests {
         no(x, x.far(0, 4), 6);
         fine(x, x.far(4, 4), 0);
 
-        promise = 36;
+        promise(36);
         fine(x, x.near(0), 6);
         fine(x, x.near(3), 6);
         fine(x, x.near(4), 0);
@@ -1014,7 +897,7 @@ public final class PromiseTests {
     }
 
     private static void tours() {
-        promise = 37;
+        promise(37);
         BeastCave x = of(CAVE);
         fine(x, x.tour(0, 6, 1), 4);
         no(x, x.tour(0, 6, 2), 6);
@@ -1043,7 +926,7 @@ public final class PromiseTests {
         fine(x, x.tour(0, 31, 2), 16);
         fine(x, x.tour(0, 93, 9), 45 + 2 + 6);
         no(x, x.tour(0, 63, 1), 1);
-        promise = 38;
+        promise(38);
         int[] order = {0, 1, 2, 3, 4};
         for (int k = 0; k < 5; k++) {
             fine(x, x.tourAt(0, 31, 2, k), order[k]);
@@ -1071,7 +954,7 @@ public final class PromiseTests {
     // ---- promises 39 to 47
 
     private static void layersAndLow() {
-        promise = 39;
+        promise(39);
         BeastCave x = of(CAVE);
         fine(x, x.layers(), 2);
         BeastCave none = new BeastCave();
@@ -1085,7 +968,7 @@ public final class PromiseTests {
         yes(y, y.cover(0, 7));
         fine(y, y.layers(), 20160);
 
-        promise = 40;
+        promise(40);
         for (int k = 0; k < 3; k++) {
             fine(x, x.layerAt(k), k);
         }
@@ -1096,7 +979,7 @@ public final class PromiseTests {
             fine(y, y.layerAt(k), order[k]);
         }
 
-        promise = 41;
+        promise(41);
         fine(x, x.low(0), 0);
         fine(x, x.low(1), 1);
         yes(x, x.cover(2, 1));
@@ -1108,19 +991,19 @@ public final class PromiseTests {
         yes(x, x.cover(0, 2));
         no(x, x.low(0), 6);
         no(x, x.low(3), 6);
-        promise = 39;
+        promise(39);
         fine(x, x.layers(), 0);
-        promise = 40;
+        promise(40);
         no(x, x.layerAt(0), 6);
         yes(y, y.cover(7, 3));
         yes(y, y.cover(3, 5));
-        promise = 41;
+        promise(41);
         fine(y, y.low(0), 3);
         fine(y, y.low(5), 0);
     }
 
     private static void handsOfFigures() {
-        promise = 42;
+        promise(42);
         BeastCave x = of(CAVE);
         int[][] hands = {{0, 3}, {1, 3}, {2, 2}, {12, 2}, {13, 2}, {14, 2}, {15, 1}, {18, 1}};
         for (int[] h : hands) {
@@ -1131,7 +1014,7 @@ public final class PromiseTests {
         BeastCave none = new BeastCave();
         fine(none, none.hands(0), 0);
 
-        promise = 43;
+        promise(43);
         int[][] hand = {{0, 1}, {1, 1}, {2, 3}, {13, 3}, {14, 3}, {15, 7}, {18, 7}};
         for (int[] h : hand) {
             fine(x, x.hand(h[0]), h[1]);
@@ -1141,19 +1024,19 @@ public final class PromiseTests {
         fine(none, none.hand(18), 0);
         x = of("beast b;figure i of b style 0 0;figure j of b style 9 9;figure k of b style 9 8;figure l of b style 0 1;");
         fine(x, x.hand(1), 6);
-        promise = 42;
+        promise(42);
         fine(x, x.hands(1), 2);
         // In the middle lies one who is like both sides; the greatest set first would leave three parts.
         x = of("beast b;figure i of b style 0 0;figure j of b style 1 0;figure k of b style 3 0;figure l of b style 4 0;"
             + "figure m of b style 6 0;figure n of b style 7 0;");
         fine(x, x.hands(3), 2);
         fine(x, x.hands(1), 3);
-        promise = 43;
+        promise(43);
         fine(x, x.hand(3), 7);
     }
 
     private static void rowsOfBeasts() {
-        promise = 44;
+        promise(44);
         BeastCave x = of(CAVE);
         int[] rows = {2, 3, 5, 8, 13, 21, 34, 55, 89, 144, 233, 377};
         for (int n = 1; n <= 12; n++) {
@@ -1170,7 +1053,7 @@ public final class PromiseTests {
         BeastCave none = new BeastCave();
         fine(none, none.rows(3), 0);
 
-        promise = 45;
+        promise(45);
         fine(x, x.rowsTo(1, 1), 1);
         fine(x, x.rowsTo(3, 0), 3);
         fine(x, x.rowsTo(3, 1), 2);
@@ -1181,7 +1064,7 @@ public final class PromiseTests {
         no(x, x.rowsTo(0, 0), 1);
         no(x, x.rowsTo(13, 0), 1);
 
-        promise = 46;
+        promise(46);
         int[] products = {1, 3, 6, 12, 24, 48, 96, 192};
         for (int n = 1; n <= 8; n++) {
             fine(x, x.likeliest(n), products[n - 1]);
@@ -1196,7 +1079,7 @@ public final class PromiseTests {
         no(z, z.likeliest(1), 6);
         no(z, z.likeliestAt(1, 0), 6);
 
-        promise = 47;
+        promise(47);
         for (int k = 0; k < 8; k++) {
             fine(x, x.likeliestAt(8, k), k == 7 ? 1 : 0);
             fine(y, y.likeliestAt(8, k), 0);
@@ -1216,7 +1099,7 @@ public final class PromiseTests {
     // ---- promises 48 to 50
 
     private static void seen() {
-        promise = 48;
+        promise(48);
         BeastCave x = of(CAVE);
         tray(x, 0, 2, 2, 2, 4, 0, 201, 3);
         fine(x, x.fits(0, 0, 0), 60);
@@ -1230,7 +1113,7 @@ public final class PromiseTests {
         no(x, x.fits(3, 0, 0), 1);
         no(x, x.fits(0, 4, 0), 1);
         no(x, x.fits(0, -1, 0), 1);
-        promise = 49;
+        promise(49);
         fine(x, x.fitsAt(0, 0, 0, 0), 1);
         fine(x, x.fitsAt(0, 0, 0, 1), 60);
         fine(x, x.fitsAt(0, 0, 1, 0), 6);
@@ -1242,7 +1125,7 @@ public final class PromiseTests {
         no(x, x.fitsAt(0, 1, 2, 0), 2);
         no(x, x.fitsAt(0, 0, 4, 0), 3);
         no(x, x.fitsAt(0, 0, 3, 0), 5);
-        promise = 50;
+        promise(50);
         fine(x, x.ask(0, 0, 2), 3);
         fine(x, x.ask(0, 0, 0), 49);
         no(x, x.ask(0, 0, 21), 1);
@@ -1250,13 +1133,13 @@ public final class PromiseTests {
         no(x, x.ask(0, 0, 4), 3);
         no(x, x.ask(0, 0, 3), 5);
 
-        promise = 48;
+        promise(48);
         tray(x, 1, 1, 2, 2, 73, 0);
         fine(x, x.fits(0, 1, 2), 1);
-        promise = 49;
+        promise(49);
         fine(x, x.fitsAt(0, 1, 2, 0), 6);
         fine(x, x.fitsAt(0, 1, 2, 1), 6);
-        promise = 50;
+        promise(50);
         no(x, x.ask(0, 1, 2), 6);
 
         // He is 3 a minute, from minute 20 on 80 less the minutes: two selves are left, 19 and 20.
@@ -1266,15 +1149,15 @@ public final class PromiseTests {
         tray(x, 1, 1, 3, 2);
         fine(x, x.ask(1, 1, 1), 0);
 
-        promise = 48;
+        promise(48);
         tray(x, 2, 3, 2, 0, 2, 2);
         fine(x, x.fits(0, 2, 1), 5);
         fine(x, x.fits(0, 2, 2), 0);
-        promise = 49;
+        promise(49);
         no(x, x.fitsAt(0, 2, 2, 0), 6);
-        promise = 50;
+        promise(50);
         no(x, x.ask(0, 2, 2), 6);
-        promise = 48;
+        promise(48);
         tray(x, 2, 3, 2, 1);
         fine(x, x.fits(0, 2, 1), 0);
         long[][] odd = {{-1, 0}, {201, 0}, {0, -1}, {0, 3}, {1L << 32, 0}, {0, 1L << 32}};
@@ -1296,7 +1179,7 @@ public final class PromiseTests {
         fine(x, x.fits(0, 0, 1), 0);
         tray(x, 0, 1, 6, 1, 0, 1);
         fine(x, x.fits(0, 0, 2), 7);
-        promise = 49;
+        promise(49);
         fine(x, x.fitsAt(0, 0, 2, 0), 54);
         fine(x, x.fitsAt(0, 0, 2, 1), 60);
     }
@@ -1304,7 +1187,7 @@ public final class PromiseTests {
     // ---- promises 51 to 54
 
     private static void games() {
-        promise = 51;
+        promise(51);
         String two = "beast b;wall x of b pulls 3;wall m;way x m long 1;visitor v self 5 at x;visitor w self 5 at m;";
         BeastCave x = of(two);
         fine(x, x.game(0, 0), 5);
@@ -1317,7 +1200,7 @@ public final class PromiseTests {
         no(x, x.game(2, 0), 1);
         no(x, x.game(0, 5), 1);
         no(x, x.game(0, -1), 1);
-        promise = 52;
+        promise(52);
         fine(x, x.moveOf(0, 1), 1);
         fine(x, x.moveOf(0, 2), 1);
         fine(x, x.moveOf(1, 1), 0);
@@ -1328,7 +1211,7 @@ public final class PromiseTests {
         fine(x, x.minute(2), 1);
         no(x, x.moveOf(0, 1), 6);
 
-        promise = 51;
+        promise(51);
         x = of("beast b;wall x of b pulls 2;wall y;way x y long 9;visitor v self 1 at x;");
         fine(x, x.minute(1), 1);
         fine(x, x.game(0, 0), -1);
@@ -1347,7 +1230,7 @@ public final class PromiseTests {
     }
 
     private static void flickers() {
-        promise = 53;
+        promise(53);
         BeastCave x = new BeastCave();
         yes(x, x.flicker(3, 2));
         fraction(x, 5, 32);
@@ -1376,7 +1259,7 @@ public final class PromiseTests {
     }
 
     private static void copies() {
-        promise = 54;
+        promise(54);
         BeastCave x = of(CAVE);
         fine(x, x.minute(2), 1);
         tray(x, 0, 0, 9, 9, 9, 9);
@@ -1398,18 +1281,8 @@ public final class PromiseTests {
 
     // ---- promises 55 to 57
 
-    private static void lived(BeastCave x, int missed, int minutes, int led, int turned, int left) {
-        int was = promise;
-        promise = 56;
-        int[] told = {missed, minutes, led, turned, left};
-        for (int what = 0; what < 5; what++) {
-            fine(x, x.lived(what), told[what]);
-        }
-        promise = was;
-    }
-
     private static void lives() {
-        promise = 55;
+        promise(55);
         BeastCave x = of(CAVE, "minute 3;lead p m;lead q x;wake p;fill 9;any;minute 2;");
         fine(x, x.live(0), 7);
         lived(x, 1, 5, 2, 2, 0);
@@ -1422,14 +1295,14 @@ public final class PromiseTests {
         no(x, x.live(-1), 1);
         no(x, x.live(10000), 1);
         fine(x, x.live(9999), 7);
-        promise = 56;
+        promise(56);
         no(x, x.lived(5), 1);
         no(x, x.lived(-1), 1);
         x = new BeastCave();
         no(x, x.lived(5), 1);
         no(x, x.lived(4), 6);
 
-        promise = 55;
+        promise(55);
         x = of(CAVE, "when turned p;minute 1;end;when at q m;minute 2;end;when dark;minute 4;end;when self p<1;minute 8;end;"
             + "when self p=0;minute 16;end;when self p>5;minute 32;end;");
         fine(x, x.live(0), 8);
@@ -1465,7 +1338,7 @@ public final class PromiseTests {
     }
 
     private static void livesAtTheirEdges() {
-        promise = 55;
+        promise(55);
         BeastCave x = of(CAVE, "loop 99;loop 99;minute 1;end;end;");
         fine(x, x.live(0), 300);
         lived(x, 0, 296, 0, 2, 1);
@@ -1505,7 +1378,7 @@ public final class PromiseTests {
     }
 
     private static void means() {
-        promise = 57;
+        promise(57);
         BeastCave x = of("beast b;wall a of b pulls 5;wall c;way a c long 1;visitor v self 3 at a;", "any;minute 2;");
         yes(x, x.mean(0, 8));
         fraction(x, 0, 1);
@@ -1540,7 +1413,7 @@ public final class PromiseTests {
     // ---- promises 58, 59
 
     private static void marks() {
-        promise = 58;
+        promise(58);
         BeastCave x = of(CAVE, "minute 2;");
         fine(x, x.mark(), 1);
         fine(x, x.live(0), 1);
@@ -1549,7 +1422,7 @@ public final class PromiseTests {
         fine(x, x.mark(), 3);
         no(x, x.mark(), 4);
         fine(x, x.fill(9), 12);
-        promise = 59;
+        promise(59);
         fine(x, x.undo(), 2);
         fine(x, x.told(4), 3);
         no(x, x.live(0), 6);
@@ -1579,9 +1452,9 @@ public final class PromiseTests {
         fine(x, x.live(0), 1);
         fine(x, x.told(6), 2);
         no(x, x.undo(), 6);
-        promise = 58;
+        promise(58);
         fine(x, x.mark(), 1);
-        promise = 59;
+        promise(59);
         fine(x, x.minute(5), 2);
         fine(x, x.undo(), 0);
         fine(x, x.told(6), 2);
