@@ -145,6 +145,8 @@ abstract class Edges extends Due {
             note(told, x, x.wall(wall, 0));
             note(told, x, x.wall(wall, 1));
             note(told, x, x.near(wall));
+            note(told, x, x.far(wall, 0));
+            note(told, x, x.far(walls - 1, wall));
         }
         for (int visitor = 0; visitor < visitors; visitor++) {
             for (int what = 0; what < 4; what++) {

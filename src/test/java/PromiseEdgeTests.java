@@ -112,6 +112,10 @@ public final class PromiseEdgeTests extends Edges {
             range(0, 60, (x, i) -> n(x.tray(0, 0, i)));
             for (int many : new int[] {0, 1, 59, 60}) {
                 BeastCave x = rich();
+                yes(x, x.tray(2, 3, 60));
+                for (int i = 0; i < 60; i++) {
+                    yes(x, x.write(2, i, i + 1));
+                }
                 yes(x, x.tray(2, 1, many));
                 for (int i = 0; i < many; i++) {
                     fine(x, x.read(2, i), 0);
@@ -341,8 +345,15 @@ public final class PromiseEdgeTests extends Edges {
                 fine(x, x.told(9), 0);
                 yes(x, x.paint(1, 0, 9));
                 fine(x, x.told(7), 125);
+                yes(x, x.paint(0, 0, 9));
+                fine(x, x.told(7), 124);
+                fine(x, x.scrub(0), 0);
                 fine(x, x.minute(1), 6);
                 fine(x, x.told(8), 63);
+                x = rich();
+                fine(x, x.told(7), 1);
+                fine(x, x.told(8), 1);
+                fine(x, x.told(9), 2);
             });
         edge("Of a WALL, what 0: its BEAST, 1: its PULL (1; 6: it is BARE).", () -> {
             range(0, 2, (x, i) -> x.wall(i, 0));
@@ -373,6 +384,12 @@ public final class PromiseEdgeTests extends Edges {
             refused(Edges::rich, x -> x.who(2), 6);
             BeastCave x = rich();
             fine(x, x.who(0), 0);
+            fine(x, x.minute(1), 1);
+            fine(x, x.minute(3), 3);
+            int[] due = {0, 0, 1};
+            for (int v = 0; v < 3; v++) {
+                fine(x, x.who(v), due[v]);
+            }
         });
         edge("3: the set of FIGURES over which it lies as told (1 for FIGURE 0 ..) (1).", () -> {
             range(0, 2, (x, i) -> x.figure(i, 3));
@@ -819,6 +836,16 @@ public final class PromiseEdgeTests extends Edges {
             // 1 ahead of 6
             refused(PromiseEdgeTests::ring, x -> x.low(2), 1);
             refused(PromiseEdgeTests::ring, x -> x.low(-1), 1);
+            in("beast b;figure f of b style 1 1;", x -> {
+                fine(x, x.low(0), 0);
+                fine(x, x.layerAt(0), 0);
+                no(x, x.low(1), 1);
+            });
+            in("beast b;figure f of b style 1 1;figure g of b style 1 1;figure h of b style 1 1;over g f;over f h;", x -> {
+                fine(x, x.low(1), 2);
+                fine(x, x.low(0), 1);
+                fine(x, x.low(2), 0);
+            });
             // One that lies in no ring has no place either.
             BeastCave x = ring();
             fine(x, x.draw(0, 0, 0), 2);
@@ -847,6 +874,13 @@ public final class PromiseEdgeTests extends Edges {
             fine(x, x.hands(14), 2);
             fine(x, x.hands(15), 1);
             fine(x, x.hands(18), 1);
+            // Nothing is left of the figures that were.
+            for (int many = 0; many < 3; many++) {
+                fine(x, x.cave(feed(x, "beast b;" + (many > 0 ? "figure f of b style 0 0;" : "")
+                    + (many > 1 ? "figure g of b style 0 0;" : ""))), 0);
+                fine(x, x.hands(18), Math.min(many, 1));
+                fine(x, x.hand(18), (1 << many) - 1);
+            }
         });
         edge("HAND: a set (1).", () -> {
             range(0, 18, (x, i) -> x.hand(i));
@@ -971,6 +1005,17 @@ public final class PromiseEdgeTests extends Edges {
             fine(x, x.fitsAt(0, 0, 1, 1), 5);
             fine(x, x.fitsAt(0, 0, 5, 0), 5);
             fine(x, x.fitsAt(0, 0, 5, 1), 5);
+            // The last self alone, and the first.
+            in("beast b;wall w of b pulls 2;visitor v self 9 at w;", y -> {
+                tray(y, 0, 1, 30, 1, 1, 0);
+                for (int what = 0; what < 2; what++) {
+                    fine(y, y.fitsAt(0, 0, 1, what), 60);
+                }
+                yes(y, y.pour(0, 2, 0, 0, 2));
+                for (int what = 0; what < 2; what++) {
+                    fine(y, y.fitsAt(0, 0, 1, what), 1);
+                }
+            });
         });
         edge("ASK (1; 2; 3; 5; 6: fewer than two).", () -> {
             range(PromiseEdgeTests::sights, 0, 2, 1, (x, i) -> x.ask(i, 0, 0));
@@ -994,6 +1039,15 @@ public final class PromiseEdgeTests extends Edges {
     }
 
     private static void seenWrongly(Seen seen) {
+        for (int place = 0; place < 40; place++) {
+            BeastCave x = rich();
+            tray(x, 3, 2, new long[40]);
+            yes(x, x.write(3, place, place % 2 == 0 ? 201 : 3));
+            seen.call(x, 0, 3, place / 2);
+            due(x.status() == 5 ? 1 : 0, 0);
+            no(x, seen.call(x, 0, 3, place / 2 + 1), 5);
+            no(x, seen.call(x, 0, 3, 20), 5);
+        }
         refused(PromiseEdgeTests::sights, x -> seen.call(x, 0, 3, 0), 2);
         refused(PromiseEdgeTests::sights, x -> seen.call(x, 0, 3, 20), 2);
         refused(PromiseEdgeTests::sights, x -> seen.call(x, 0, 0, 6), 3);
@@ -1144,6 +1198,14 @@ public final class PromiseEdgeTests extends Edges {
                     fine(y, y.live(0), 300);
                     due(y.lived(4), 1);
                 });
+                // The latest alone: what was left by an earlier one is not.
+                in(CAVE, "loop 99;loop 99;any;end;end;", y -> {
+                    fine(y, y.live(0), 300);
+                    due(y.lived(4), 1);
+                    fine(y, y.days(feed(y, "stop;")), 1);
+                    fine(y, y.live(0), 1);
+                    lived(y, 0, 0, 0, 0, 0);
+                });
                 in(CAVE, "loop 99;stop;end;", y -> {
                     fine(y, y.live(0), 2);
                     due(y.lived(4), 0);
@@ -1166,6 +1228,19 @@ public final class PromiseEdgeTests extends Edges {
                 BeastCave x = rich();
                 yes(x, x.mean(9980, 20));
                 yes(x, x.mean(9998, 2));
+                // By 0 to 7 none; by 8, 9 and 10 he is drawn to the wall where he is, and looks on.
+                in("beast b;wall a of b pulls 5;wall c;way a c long 1;visitor v self 3 at a;", "any;minute 2;", y -> {
+                    yes(y, y.mean(0, 8));
+                    fraction(y, 0, 1);
+                    yes(y, y.mean(0, 9));
+                    fraction(y, 1, 9);
+                    yes(y, y.mean(6, 3));
+                    fraction(y, 1, 3);
+                    yes(y, y.mean(7, 2));
+                    fraction(y, 1, 2);
+                    yes(y, y.mean(8, 3));
+                    fraction(y, 1, 1);
+                });
                 refused(Edges::rich, y -> n(y.mean(9981, 20)), 1);
                 refused(Edges::rich, y -> n(y.mean(9999, 2)), 1);
                 refused(() -> of(CAVE), y -> n(y.mean(0, 1)), 6);

@@ -1,3 +1,5 @@
+import java.util.function.Supplier;
+
 /** The edges that Terms 1 to 5 name: a test for each of their sentences. */
 public final class TermEdgeTests extends Edges {
     private static final String TWENTY = "lamp 0000000000000000";
@@ -11,6 +13,7 @@ public final class TermEdgeTests extends Edges {
         toldAgain();
         faultsOfCaves();
         aCaveThatIsTaken();
+        oneBehindTheOther();
         measures();
         minutes();
         whatIsDone();
@@ -402,6 +405,9 @@ public final class TermEdgeTests extends Edges {
             caveFault("beast b;wall w;way w b", 3, 21);
             caveFault("beast b;wall w;follows b w", 3, 25);
             caveFault("beast b;wall w;over b", 3, 20);
+            caveFault("beast b;wall w;follows w b weight 1;", 3, 23);
+            caveFault("beast b;wall w;way b w long 1;", 3, 19);
+            caveFault("beast b;figure f of b style 1 1;over b f;", 3, 37);
         });
         edge("4 a NUMBER that can't be.", () -> {
             caveFault("lamp 100;", 4, 5);
@@ -429,6 +435,58 @@ public final class TermEdgeTests extends Edges {
             fine(x, x.cave(0), 0);
             for (int what = 0; what < first.length; what++) {
                 fine(x, x.told(what), what == 4 ? 60 : what == 5 ? 4 : 0);
+            }
+        });
+    }
+
+    private static void oneBehindTheOther() {
+        String small = "beast s;wall m;wall x;wall p;visitor f self 9 at m;figure b of s style 1 1;figure q of s style 9 9;";
+        edge("A CAVE that is taken is there in place of that ahead;", () -> {
+            // Often enough that nothing of an earlier one can come back.
+            BeastCave x = of(CAVE, "any;loop 2;minute 1;end;");
+            for (int i = 0; i < 4; i++) {
+                fine(x, x.cave(feed(x, CAVE)), 3);
+                fine(x, x.days(feed(x, "any;loop 2;minute 1;end;")), 3);
+                fine(x, x.layers(), 2);
+                fine(x, x.measure(0, 0), 0);
+                fine(x, x.told(9), 0);
+                fine(x, x.minute(1), 0);
+                fine(x, x.lead(0, 0), 1);
+                fine(x, x.draw(0, 0, 0), 3);
+                yes(x, x.cover(2, 1));
+                yes(x, x.cover(3, 0));
+            }
+            for (int i = 0; i < 3; i++) {
+                fine(x, x.cave(feed(x, small)), 1);
+                fine(x, x.near(0), 0);
+                no(x, x.far(0, 1), 6);
+                fine(x, x.weight(0, 0), 0);
+                fine(x, x.hands(0), 2);
+                fine(x, x.hands(16), 1);
+                fine(x, x.layers(), 2);
+                fine(x, x.visitor(0, 3), 0);
+                no(x, x.live(0), 6);
+            }
+            due(all(x).equals(all(of(small))) ? 1 : 0, 1);
+            in("wall x;wall y;" + times(10, "way x y long 3;"), y -> {
+                for (int i = 0; i < 3; i++) {
+                    fine(y, y.cave(feed(y, "wall x;wall y;" + times(10, "way x y long 4;"))), 0);
+                    fine(y, y.far(0, 1), 4);
+                }
+            });
+        });
+        edge("Likewise the DAYS: how many STEPS", () -> {
+            BeastCave x = of(CAVE, "loop 2;loop 2;any;end;end;");
+            for (int i = 0; i < 4; i++) {
+                no(x, x.days(feed(x, "loop 2;loop 2;loop 2;")), 9);
+                faultIs(x, 2, 21);
+                no(x, x.days(feed(x, "end;")), 9);
+                faultIs(x, 2, 0);
+                fine(x, x.days(feed(x, "loop 1;loop 1;loop 1;end;end;end;")), 3);
+                fine(x, x.live(0), 3);
+                fine(x, x.days(feed(x, times(30, "any;"))), 30);
+                fine(x, x.days(feed(x, "stop;")), 1);
+                fine(x, x.live(0), 1);
             }
         });
     }
@@ -652,6 +710,18 @@ public final class TermEdgeTests extends Edges {
     }
 
     private static void tours() {
+        edge("by the least LONG of all WAYS on one way together", () -> {
+            in("wall a;wall b;wall c;way b a long 1;way a c long 1;way b c long 3;", x -> {
+                fine(x, x.far(1, 2), 2);
+                fine(x, x.far(0, 0), 0);
+            });
+            in("wall a;wall b;wall c;way b a long 1;way a c long 2;way b c long 3;", x -> fine(x, x.far(1, 2), 3));
+            in("wall a;wall b;wall c;way b a long 1;way a c long 3;way b c long 3;", x -> fine(x, x.far(2, 1), 3));
+            in("wall a;wall b;wall c;wall d;wall e;wall f;wall g;way g a long 1;way a f long 1;", x -> {
+                fine(x, x.far(6, 5), 2);
+                no(x, x.far(6, 4), 6);
+            });
+        });
         String line = "wall a;wall b;wall c;wall d;wall e;wall f;way a b long 1;way b c long 2;way c d long 3;way d e long 4;"
             + "way e f long 5;visitor v self 1 at a;";
         edge("by a set of at most 5 WALLS", () -> in(line, x -> {
@@ -833,7 +903,28 @@ public final class TermEdgeTests extends Edges {
                 fine(x, x.scrub(0), 1);
                 fine(x, x.ask(0, 0, 1), 0);
             });
+            // 18 and 19 are left; up to minute 60 he is never 19, in minute 61 he would be.
+            in("lamp 8;beast b;wall w of b pulls 9;visitor v self 60 at w;", x -> {
+                tray(x, 0, 3, 2, 1, 60, 0);
+                fine(x, x.fits(0, 0, 2), 2);
+                fine(x, x.ask(0, 0, 2), 0);
+            });
+            // 54 to 60 are left: in 6 minutes he is 54, in 7 he is 63.
+            in("lamp 99;beast b;wall w of b pulls 9;visitor v self 60 at w;", x -> {
+                tray(x, 0, 3, 6, 1);
+                fine(x, x.fits(0, 0, 1), 7);
+                fine(x, x.ask(0, 0, 1), 0);
+            });
         });
+        edge("the most of them by which he is the same are the fewest; of several the least.", () ->
+            // He is 1, 2, 3, 2, 1, 0: of selves 1 to 3 minutes 2 and 4 part one, 3 parts two.
+            in("lamp 3;beast b;wall w of b pulls 1;visitor v self 9 at w;", x -> {
+                yes(x, x.tray(0, 0, 0));
+                fine(x, x.ask(0, 0, 0), 3);
+                tray(x, 0, 0, 3, 0);
+                fine(x, x.fits(0, 0, 1), 2);
+                fine(x, x.ask(0, 0, 1), 2);
+            }));
         edge("GAME of a VISITOR and n turns (0 to 4)", () -> in("beast b;wall w of b pulls 1;visitor v self 9 at w;", x -> {
             int[] due = {9, 8, 6, 4, 1};
             for (int n = 0; n <= 4; n++) {
@@ -842,6 +933,62 @@ public final class TermEdgeTests extends Edges {
             no(x, x.game(0, 5), 1);
             no(x, x.game(0, -1), 1);
         }));
+        edge("by turns, the guide first, he LEADS him to a WALL (if it can be) or does nothing", () -> {
+            String two = "beast b;wall w of b pulls 2;wall x of b pulls 9;way w x long 1;";
+            // As great as himself he may be led, and is one less then.
+            in(two + "visitor v self 2 at w;", x -> {
+                fine(x, x.minute(1), 0);
+                fine(x, x.game(0, 1), 1);
+                fine(x, x.moveOf(0, 1), 1);
+                fine(x, x.minute(1), 1);
+                fine(x, x.game(0, 1), 2 - 6);
+                no(x, x.moveOf(0, 1), 6);
+            });
+            // To x would be 9 and 18; at w he is 2, 5, and turned by then: 8.
+            in(two + "visitor v self 1 at w;", x -> {
+                fine(x, x.game(0, 3), 1 - 8);
+                no(x, x.moveOf(0, 3), 6);
+            });
+            // On a way nothing leads him; where he comes to in a guide's turn he looks in the beast's.
+            in("beast b;wall w;wall x of b pulls 5;way w x long 3;visitor v self 9 at w;", x -> {
+                fine(x, x.lead(0, 1), 3);
+                fine(x, x.game(0, 3), 9);
+                fine(x, x.game(0, 4), 9 - 7);
+                no(x, x.moveOf(0, 4), 6);
+                fine(x, x.minute(1), 0);
+                // Now he comes there in the beast's turn, and is led away in the next.
+                fine(x, x.game(0, 4), 9);
+                fine(x, x.minute(1), 0);
+                fine(x, x.game(0, 2), 9 - 6);
+            });
+            // The lamp burns for a minute more.
+            in("lamp 1;beast b;wall w of b pulls 2;visitor v self 1 at w;", x -> {
+                fine(x, x.game(0, 1), -1);
+                fine(x, x.game(0, 2), 0);
+                fine(x, x.game(0, 3), 1);
+                fine(x, x.game(0, 4), 1);
+            });
+            in("lamp 0;beast b;wall w of b pulls 2;visitor v self 1 at w;", x -> fine(x, x.game(0, 4), 1));
+        });
+        edge("MOVE: the guide's first WALL, of all that are as good the first; nothing comes last.", () -> {
+            String three = "beast b;wall w;wall x of b pulls 9;wall y;wall z;wall a;wall c;wall d;way w x long 1;";
+            // x is the worst: behind a turn of the beast he is 9.
+            in(three + "visitor v self 3 at w;", x -> {
+                fine(x, x.moveOf(0, 1), 1);
+                no(x, x.moveOf(0, 2), 6);
+                fine(x, x.game(0, 2), 3);
+            });
+            in(three + "way w z long 1;way w y long 1;visitor v self 3 at w;", x -> {
+                fine(x, x.moveOf(0, 2), 2);
+                fine(x, x.game(0, 2), 3);
+            });
+            in("beast b;wall w of b pulls 9;wall x of b pulls 8;wall y of b pulls 7;way w x long 1;way w y long 1;"
+                + "visitor v self 3 at w;", x -> {
+                    // 9 first for nothing, 9 by x, 8 by y.
+                    fine(x, x.game(0, 2), 3 - 8);
+                    fine(x, x.moveOf(0, 2), 2);
+                });
+        });
         edge("the beast makes the PULL of a WALL OF a BEAST 1 more (9 at most), or does nothing", () -> {
             in("beast b;wall w of b pulls 9;visitor v self 9 at w;", x -> fine(x, x.game(0, 2), -9));
             in("beast b;wall w of b pulls 8;visitor v self 9 at w;", x -> {
@@ -1132,6 +1279,69 @@ public final class TermEdgeTests extends Edges {
             });
     }
 
+    /** All that there can be, in one text. */
+    private static final String CROWD = "lamp 0;odds 0;" + each("abcde", "beast ?;") + each("fghijkl", "wall ? of e pulls 9;")
+        + times(5, "way f l long 9;way l k long 8;") + each("mnopqr", "visitor ? self 60 at l;")
+        + each("stuvwxyz", "figure ? of e style 9 9;") + "over z y;over y x;over s z;follows e d weight 9;";
+
+    private static BeastCave begun() {
+        BeastCave x = of(CAVE, "any;minute 2;when turned p;wake p;end;fill 3;");
+        fine(x, x.minute(2), 1);
+        fine(x, x.lead(1, 1), 1);
+        yes(x, x.paint(0, 1, 9));
+        fine(x, x.scrub(1), 0);
+        fine(x, x.come(60, 2), 3);
+        fine(x, x.draw(1, 7, 8), 3);
+        yes(x, x.cover(3, 2));
+        yes(x, x.rule(3));
+        return x;
+    }
+
+    private static BeastCave crowded() {
+        BeastCave x = of(CROWD, "loop 3;when self m<9;minute 1;end;when at r f;fill 7;end;lead q f;end;lead r k;wake m;stop;");
+        fine(x, x.fill(3), 3);
+        fine(x, x.minute(2), 0);
+        fine(x, x.lead(5, 0), 9);
+        fine(x, x.minute(4), 0);
+        fine(x, x.lead(0, 5), 8);
+        return x;
+    }
+
+    /** Whatever is done behind a mark, all is as without it when it is taken back; names are those of then. */
+    private static void comesBack(Supplier<BeastCave> make, String days, int visitor, int wall) {
+        BeastCave x = make.get();
+        for (int i = 0; i < 3; i++) {
+            fine(x, x.mark(), 1);
+            x.cave(feed(x, i == 1 ? CAVE : CROWD));
+            due(x.status(), 0);
+            x.days(feed(x, i == 1 ? "stop;any;stop;" : "loop 2;fill 3;fill 4;minute 1;end;loop 5;end;any;any;any;any;any;any;"));
+            due(x.status(), 0);
+            fine(x, x.mark(), 2);
+            fine(x, x.minute(3), i == 1 ? 1 : 0);
+            fine(x, x.fill(9), i == 1 ? 26 : 9);
+            fine(x, x.minute(3), i == 1 ? 2 : 0);
+            fine(x, x.wake(0), i == 1 ? 9 : 13);
+            fine(x, x.scrub(2), i == 1 ? 1 : 4);
+            yes(x, x.paint(1, 0, 3));
+            yes(x, x.rule(9));
+            yes(x, x.cover(1, 2));
+            fine(x, x.lead(1, i == 1 ? 2 : 0), i == 1 ? 4 : 9);
+            fine(x, x.undo(), 1);
+            fine(x, x.told(6), 0);
+            fine(x, x.cave(0), 0);
+            fine(x, x.undo(), 0);
+        }
+        due(all(x).equals(all(make.get())) ? 1 : 0, 1);
+        BeastCave y = make.get();
+        fine(y, y.mark(), 1);
+        fine(y, y.cave(feed(y, "wall p;wall q;wall r;wall x;beast f;visitor z self 1 at q;")), 1);
+        fine(y, y.undo(), 0);
+        y.minute(9);
+        fine(y, y.days(feed(y, days)), 2);
+        fine(y, y.live(0), 2);
+        fine(y, y.visitor(visitor, 1), wall);
+    }
+
     private static void marksAndFractions() {
         edge("MARKS, at most 3", () -> in(CAVE, x -> {
             no(x, x.undo(), 6);
@@ -1147,6 +1357,11 @@ public final class TermEdgeTests extends Edges {
             }
             no(x, x.undo(), 6);
         }));
+        edge("the CAVE with all that became of it, the DAYS are kept as they are; all is taken back to the latest MARK, which is gone then.",
+            () -> {
+                comesBack(TermEdgeTests::begun, "wake r;lead q y;", 1, 2);
+                comesBack(TermEdgeTests::crowded, "wake r;lead q f;", 4, 0);
+            });
         edge("without a common divisor, the bottom above 0; 0 is 0 by 1.", () -> {
             in("odds 16;", x -> {
                 yes(x, x.flicker(3, 3));
