@@ -110,6 +110,16 @@ public final class PromiseEdgeTests extends Edges {
             range(0, 3, (x, i) -> n(x.tray(i, 0, 1)));
             range(0, 3, (x, i) -> n(x.tray(0, i, 1)));
             range(0, 60, (x, i) -> n(x.tray(0, 0, i)));
+            for (int t = 0; t < 4; t++) {
+                BeastCave x = new BeastCave();
+                for (int other = 0; other < 4; other++) {
+                    tray(x, other, 3, noZeros(60));
+                }
+                yes(x, x.tray(t, 3, 60));
+                for (int other = 0; other < 4; other++) {
+                    numbers(x, other, other == t ? new long[60] : noZeros(60));
+                }
+            }
             for (int many : new int[] {0, 1, 59, 60}) {
                 BeastCave x = rich();
                 yes(x, x.tray(2, 3, 60));
@@ -206,6 +216,15 @@ public final class PromiseEdgeTests extends Edges {
         numbers(x, 0, -2, 3, -4, 5, -4, 5);
         yes(x, x.pour(0, 0, 3, 0, 0));
         numbers(x, 3, -4, 5, -6);
+    }
+
+    /** So many numbers, none of them 0. */
+    private static long[] noZeros(int many) {
+        long[] numbers = new long[many];
+        for (int i = 0; i < many; i++) {
+            numbers[i] = -1 - i;
+        }
+        return numbers;
     }
 
     private static void numbers(BeastCave x, int tray, long... due) {
@@ -538,6 +557,12 @@ public final class PromiseEdgeTests extends Edges {
                 fine(x, x.visitor(v, 3), 0);
             }
             no(x, x.come(3, 1), 4);
+            // The others are as they were.
+            int[] most = {6, 0, 4, 0, 0, 0};
+            for (int v = 0; v < 6; v++) {
+                fine(x, x.visitor(v, 3), most[v]);
+            }
+            fine(x, x.told(9), 2);
             // Where one stood before all was taken back, a new one has nothing of him.
             x = of(CAVE);
             fine(x, x.mark(), 1);

@@ -310,6 +310,8 @@ public final class TermEdgeTests extends Edges {
             caveFault(all + "visitor", 6, all.length());
             caveFault(all + "figure", 6, all.length());
             caveFault(all + "follows a a weight 0;", 4, all.length() + 19);
+            caveFault(all + "follows a aa weight 1;", 3, all.length() + 10);
+            caveFault(all + "over a z;", 3, all.length() + 5);
         });
     }
 
@@ -448,7 +450,9 @@ public final class TermEdgeTests extends Edges {
                 fine(x, x.cave(feed(x, CAVE)), 3);
                 fine(x, x.days(feed(x, "any;loop 2;minute 1;end;")), 3);
                 fine(x, x.layers(), 2);
-                fine(x, x.measure(0, 0), 0);
+                for (int v = 0; v < 3; v++) {
+                    fine(x, x.visitor(v, 3), 0);
+                }
                 fine(x, x.told(9), 0);
                 fine(x, x.minute(1), 0);
                 fine(x, x.lead(0, 0), 1);
@@ -468,6 +472,16 @@ public final class TermEdgeTests extends Edges {
                 no(x, x.live(0), 6);
             }
             due(all(x).equals(all(of(small))) ? 1 : 0, 1);
+            in("wall a;wall b;", y -> {
+                for (int i = 0; i < 3; i++) {
+                    fine(y, y.cave(feed(y, "wall a;wall b;way a b long 1;")), 0);
+                }
+                for (int i = 0; i < 3; i++) {
+                    no(y, y.cave(feed(y, "wall a;way a b long 1;")), 9);
+                    faultIs(y, 3, 13);
+                    fine(y, y.cave(feed(y, "wall a;beast b;")), 0);
+                }
+            });
             in("wall x;wall y;" + times(10, "way x y long 3;"), y -> {
                 for (int i = 0; i < 3; i++) {
                     fine(y, y.cave(feed(y, "wall x;wall y;" + times(10, "way x y long 4;"))), 0);
@@ -1328,7 +1342,10 @@ public final class TermEdgeTests extends Edges {
             fine(x, x.lead(1, i == 1 ? 2 : 0), i == 1 ? 4 : 9);
             fine(x, x.undo(), 1);
             fine(x, x.told(6), 0);
-            fine(x, x.cave(0), 0);
+            for (int k = 0; k <= i; k++) {
+                x.cave(feed(x, k == 1 ? CAVE : CROWD));
+                due(x.status(), 0);
+            }
             fine(x, x.undo(), 0);
         }
         due(all(x).equals(all(make.get())) ? 1 : 0, 1);
