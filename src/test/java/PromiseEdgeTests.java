@@ -903,6 +903,7 @@ public final class PromiseEdgeTests extends Edges {
             for (int many = 0; many < 3; many++) {
                 fine(x, x.cave(feed(x, "beast b;" + (many > 0 ? "figure f of b style 0 0;" : "")
                     + (many > 1 ? "figure g of b style 0 0;" : ""))), 0);
+                fine(x, x.hand(18), (1 << many) - 1);
                 fine(x, x.hands(18), Math.min(many, 1));
                 fine(x, x.hand(18), (1 << many) - 1);
             }
@@ -976,6 +977,18 @@ public final class PromiseEdgeTests extends Edges {
                 no(x, x.likeliestAt(1, 1), 6);
             });
             in("", x -> no(x, x.likeliestAt(1, 0), 6));
+            StringBuilder all = new StringBuilder("beast a;beast b;beast c;beast d;beast e;");
+            for (int i = 0; i < 25; i++) {
+                all.append("follows ").append((char) ('a' + i / 5)).append(' ').append((char) ('a' + i % 5)).append(" weight 9;");
+            }
+            in(all.toString(), x -> {
+                fine(x, x.rows(12), 244140625);
+                fine(x, x.rowsTo(12, 4), 48828125);
+                fine(x, x.likeliest(8), 4782969);
+                for (int k = 0; k < 8; k++) {
+                    fine(x, x.likeliestAt(8, k), 0);
+                }
+            });
             BeastCave x = rich();
             fine(x, x.likeliestAt(8, 7), 1);
             no(x, x.likeliestAt(8, 8), 6);
