@@ -2,20 +2,29 @@ import com.sun.source.tree.AssertTree;
 import com.sun.source.tree.BinaryTree;
 import com.sun.source.tree.ClassTree;
 import com.sun.source.tree.CompilationUnitTree;
+import com.sun.source.tree.DoWhileLoopTree;
+import com.sun.source.tree.ExpressionTree;
+import com.sun.source.tree.ForLoopTree;
+import com.sun.source.tree.ImportTree;
 import com.sun.source.tree.InstanceOfTree;
 import com.sun.source.tree.LambdaExpressionTree;
+import com.sun.source.tree.LiteralTree;
 import com.sun.source.tree.MemberReferenceTree;
 import com.sun.source.tree.MethodInvocationTree;
 import com.sun.source.tree.MethodTree;
 import com.sun.source.tree.NewArrayTree;
 import com.sun.source.tree.NewClassTree;
+import com.sun.source.tree.SwitchExpressionTree;
+import com.sun.source.tree.SwitchTree;
 import com.sun.source.tree.SynchronizedTree;
 import com.sun.source.tree.ThrowTree;
 import com.sun.source.tree.Tree;
 import com.sun.source.tree.TryTree;
 import com.sun.source.tree.TypeCastTree;
 import com.sun.source.tree.VariableTree;
+import com.sun.source.tree.WhileLoopTree;
 import com.sun.source.util.JavacTask;
+import com.sun.source.util.TreePath;
 import com.sun.source.util.TreePathScanner;
 import com.sun.source.util.Trees;
 import java.io.File;
@@ -29,6 +38,9 @@ import java.util.TreeSet;
 import javax.lang.model.element.Element;
 import javax.lang.model.element.ElementKind;
 import javax.lang.model.element.Modifier;
+import javax.lang.model.type.ArrayType;
+import javax.lang.model.type.TypeKind;
+import javax.lang.model.type.TypeMirror;
 import javax.tools.JavaCompiler;
 import javax.tools.StandardJavaFileManager;
 import javax.tools.ToolProvider;
@@ -61,6 +73,7 @@ public final class LanguageTests extends TreePathScanner<Void, Void> {
             tests.scan(unit, null);
             tests.checkDepth();
             tests.say(tests.classes <= 12, unit, tests.classes + " classes");
+            tests.say(unit.getPackageName() == null, unit, "a package line");
         }
         System.out.println(wrong == 0 ? "the language is kept" : wrong + " places outside the language");
         if (wrong != 0) {
@@ -181,6 +194,79 @@ public final class LanguageTests extends TreePathScanner<Void, Void> {
         String type = String.valueOf(trees.getTypeMirror(getCurrentPath()));
         say(!type.endsWith("String"), tree, "texts joined by +");
         return super.visitBinary(tree, v);
+    }
+
+    @Override
+    public Void visitImport(ImportTree tree, Void v) {
+        say(tree.getQualifiedIdentifier().toString().equals("java.util.Arrays"), tree, "an import");
+        return super.visitImport(tree, v);
+    }
+
+    @Override
+    public Void visitVariable(VariableTree tree, Void v) {
+        TypeMirror type = trees.getTypeMirror(getCurrentPath());
+        say(isAllowed(type), tree, "a variable of " + type);
+        Set<Modifier> how = tree.getModifiers().getFlags();
+        say(!how.contains(Modifier.STATIC) || type.getKind().isPrimitive() || type.toString().equals("java.lang.String"), tree,
+            "a static field of " + type);
+        return super.visitVariable(tree, v);
+    }
+
+    /** Of what rule 3 allows the program needs whole numbers, truths, its own objects, texts, and rows of the first ones. */
+    private static boolean isAllowed(TypeMirror type) {
+        if (type.getKind() == TypeKind.ARRAY) {
+            TypeMirror of = ((ArrayType) type).getComponentType();
+            return of.getKind() != TypeKind.ARRAY && !of.toString().equals("java.lang.String") && isAllowed(of);
+        }
+        return Set.of(TypeKind.INT, TypeKind.LONG, TypeKind.BYTE, TypeKind.CHAR, TypeKind.BOOLEAN).contains(type.getKind())
+            || type.toString().equals("java.lang.String") || type.toString().startsWith("BeastCave");
+    }
+
+    @Override
+    public Void visitLiteral(LiteralTree tree, Void v) {
+        if (tree.getValue() instanceof String text) {
+            say(text.chars().allMatch(c -> c >= 1 && c <= 127), tree, "a sign that is none of 1 to 127");
+        }
+        return super.visitLiteral(tree, v);
+    }
+
+    private void checkEnd(Tree loop, ExpressionTree condition) {
+        say(condition != null && !condition.toString().contains("true"), loop, "a loop without an end");
+    }
+
+    @Override
+    public Void visitForLoop(ForLoopTree tree, Void v) {
+        checkEnd(tree, tree.getCondition());
+        return super.visitForLoop(tree, v);
+    }
+
+    @Override
+    public Void visitWhileLoop(WhileLoopTree tree, Void v) {
+        checkEnd(tree, tree.getCondition());
+        return super.visitWhileLoop(tree, v);
+    }
+
+    @Override
+    public Void visitDoWhileLoop(DoWhileLoopTree tree, Void v) {
+        checkEnd(tree, tree.getCondition());
+        return super.visitDoWhileLoop(tree, v);
+    }
+
+    private void checkSelector(Tree choice, ExpressionTree selector) {
+        TypeMirror type = trees.getTypeMirror(new TreePath(getCurrentPath(), selector));
+        say(type.getKind().isPrimitive(), choice, "a switch on " + type);
+    }
+
+    @Override
+    public Void visitSwitch(SwitchTree tree, Void v) {
+        checkSelector(tree, tree.getExpression());
+        return super.visitSwitch(tree, v);
+    }
+
+    @Override
+    public Void visitSwitchExpression(SwitchExpressionTree tree, Void v) {
+        checkSelector(tree, tree.getExpression());
+        return super.visitSwitchExpression(tree, v);
     }
 
     @Override
